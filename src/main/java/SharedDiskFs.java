@@ -57,7 +57,6 @@ public final class SharedDiskFs {
         if (!isBlock(a) || !isBlock(b)) {
             return BAD_BLOCK;
         }
-        // Tested here and not left to read: a content that was read may equal a refusal.
         if (crashed[node]) {
             return DOWN;
         }
