@@ -1,16 +1,22 @@
 /** Counts the answers that are not as due; each test's main method closes with {@link #finish()}. */
 final class Due {
+    private static String sentence = "";
     private static int asked = 0;
     private static int wrong = 0;
 
     private Due() {
     }
 
+    /** What is asked from here on tests these words of the document; a failure names them. */
+    static void sentence(String where, String words) {
+        sentence = where + " \"" + words + "\": ";
+    }
+
     static void is(String call, long want, long got) {
         asked++;
         if (got != want) {
             wrong++;
-            System.out.println(call + " answered " + got + ", due is " + want);
+            System.out.println(sentence + call + " answered " + got + ", due is " + want);
         }
     }
 
@@ -22,7 +28,7 @@ final class Due {
         asked++;
         if (!got.equals(want)) {
             wrong++;
-            System.out.println(call + " left\n  " + got + "\ndue is\n  " + want);
+            System.out.println(sentence + call + " left\n  " + got + "\ndue is\n  " + want);
         }
     }
 

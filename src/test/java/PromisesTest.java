@@ -1,6 +1,6 @@
-/** Each promise by its number: ordinary inputs and the edges that the document names. */
+/** Each promise by its number, with ordinary inputs. */
 public final class PromisesTest {
-    private static final int NOTHING = -4;
+    private static final int NOTHING = State.NOTHING;
 
     public static void main(String[] args) {
         promise1NewObject();
@@ -32,31 +32,13 @@ public final class PromisesTest {
         return new SharedDiskFs(4);
     }
 
-    private static void block(String when, SharedDiskFs disk, int block, int content, int safe, int owner) {
-        Due.is(when + ": content(" + block + ")", content, disk.content(block));
-        Due.is(when + ": safe(" + block + ")", safe, disk.safe(block));
-        Due.is(when + ": owner(" + block + ")", owner, disk.owner(block));
-    }
-
-    private static void counts(String when, SharedDiskFs disk, int of0, int of1, int of2) {
-        Due.is(when + ": unsafe(0)", of0, disk.unsafe(0));
-        Due.is(when + ": unsafe(1)", of1, disk.unsafe(1));
-        Due.is(when + ": unsafe(2)", of2, disk.unsafe(2));
-    }
-
-    private static void nodes(String when, SharedDiskFs disk, boolean up0, boolean up1, boolean up2) {
-        Due.is(when + ": up(0)", up0, disk.up(0));
-        Due.is(when + ": up(1)", up1, disk.up(1));
-        Due.is(when + ": up(2)", up2, disk.up(2));
-    }
-
     private static void promise1NewObject() {
         SharedDiskFs disk = disk();
         for (int block = 0; block < 16; block++) {
-            block("new", disk, block, 0, 0, NOTHING);
+            State.block("new", disk, block, 0, 0, NOTHING);
         }
-        counts("new", disk, 0, 0, 0);
-        nodes("new", disk, true, true, true);
+        State.counts("new", disk, 0, 0, 0);
+        State.nodes("new", disk, true, true, true);
         Due.is("new: powerCut()", 0, disk.powerCut());
     }
 
@@ -70,7 +52,7 @@ public final class PromisesTest {
                 Due.is(when + ": write(1, " + block + ", ..)", block + 1, disk.write(1, block, 100 + block));
             }
             for (int block = 0; block < 12; block++) {
-                block(when, disk, block, 100 + block, 0, 1);
+                State.block(when, disk, block, 100 + block, 0, 1);
                 Due.is(when + ": read(1, " + block + ")", 100 + block, disk.read(1, block));
             }
             Due.is(when + ": swap(1, 0, 15)", 13, disk.swap(1, 0, 15));
@@ -98,12 +80,12 @@ public final class PromisesTest {
         disk.write(0, 5, 8);
         disk.write(0, 15, 9);
         Due.is("read(1, 5)", 8, disk.read(1, 5));
-        block("read of another's write", disk, 0, 7, 7, NOTHING);
-        block("read of another's write", disk, 5, 8, 8, NOTHING);
-        block("read of another's write", disk, 15, 9, 9, NOTHING);
-        counts("read of another's write", disk, 0, 0, 0);
+        State.block("read of another's write", disk, 0, 7, 7, NOTHING);
+        State.block("read of another's write", disk, 5, 8, 8, NOTHING);
+        State.block("read of another's write", disk, 15, 9, 9, NOTHING);
+        State.counts("read of another's write", disk, 0, 0, 0);
         Due.is("crash after that read", 0, disk.crash(0));
-        block("crash after that read", disk, 5, 8, 8, NOTHING);
+        State.block("crash after that read", disk, 5, 8, 8, NOTHING);
     }
 
     private static void promise2ReadLeavesOwnAndThirdNodesWrites() {
@@ -113,12 +95,12 @@ public final class PromisesTest {
         disk.write(2, 3, 13);
         disk.read(0, 1);
         disk.read(0, 9);
-        counts("read of own and of free blocks", disk, 1, 1, 1);
+        State.counts("read of own and of free blocks", disk, 1, 1, 1);
         disk.read(0, 2);
-        counts("read of node 1's block", disk, 1, 0, 1);
-        block("read of node 1's block", disk, 1, 11, 0, 0);
-        block("read of node 1's block", disk, 2, 12, 12, NOTHING);
-        block("read of node 1's block", disk, 3, 13, 0, 2);
+        State.counts("read of node 1's block", disk, 1, 0, 1);
+        State.block("read of node 1's block", disk, 1, 11, 0, 0);
+        State.block("read of node 1's block", disk, 2, 12, 12, NOTHING);
+        State.block("read of node 1's block", disk, 3, 13, 0, 2);
     }
 
     private static void promise2ContentMayEqualARefusal() {
@@ -127,8 +109,8 @@ public final class PromisesTest {
             disk.write(0, 4, value);
             disk.write(0, 5, 5);
             Due.is("read of content " + value, value, disk.read(1, 4));
-            counts("read of content " + value, disk, 0, 0, 0);
-            block("read of content " + value, disk, 4, value, value, NOTHING);
+            State.counts("read of content " + value, disk, 0, 0, 0);
+            State.block("read of content " + value, disk, 4, value, value, NOTHING);
         }
     }
 
@@ -137,12 +119,12 @@ public final class PromisesTest {
         Due.is("write(2, 0, 5)", 1, disk.write(2, 0, 5));
         Due.is("write(2, 15, 6)", 2, disk.write(2, 15, 6));
         Due.is("write(2, 0, 7) again", 2, disk.write(2, 0, 7));
-        block("writes", disk, 0, 7, 0, 2);
-        block("writes", disk, 15, 6, 0, 2);
-        block("writes", disk, 14, 0, 0, NOTHING);
-        counts("writes", disk, 0, 0, 2);
+        State.block("writes", disk, 0, 7, 0, 2);
+        State.block("writes", disk, 15, 6, 0, 2);
+        State.block("writes", disk, 14, 0, 0, NOTHING);
+        State.counts("writes", disk, 0, 0, 2);
         Due.is("write of another node elsewhere", 1, disk.write(0, 8, 3));
-        counts("write of another node elsewhere", disk, 1, 0, 2);
+        State.counts("write of another node elsewhere", disk, 1, 0, 2);
     }
 
     private static void promise3WriteSettlesTheOtherOwner() {
@@ -152,21 +134,21 @@ public final class PromisesTest {
         disk.write(2, 3, 13);
         disk.write(1, 4, 14);
         Due.is("write(1, 1, 21)", 2, disk.write(1, 1, 21));
-        block("write over another's", disk, 1, 21, 11, 1);
-        block("write over another's", disk, 2, 12, 12, NOTHING);
-        block("write over another's", disk, 3, 13, 0, 2);
-        block("write over another's", disk, 4, 14, 0, 1);
-        counts("write over another's", disk, 0, 2, 1);
+        State.block("write over another's", disk, 1, 21, 11, 1);
+        State.block("write over another's", disk, 2, 12, 12, NOTHING);
+        State.block("write over another's", disk, 3, 13, 0, 2);
+        State.block("write over another's", disk, 4, 14, 0, 1);
+        State.counts("write over another's", disk, 0, 2, 1);
     }
 
     private static void promise3WriteOfTheSameValueIsUnsafe() {
         SharedDiskFs disk = disk();
         Due.is("write of the content itself", 1, disk.write(0, 6, 0));
-        block("write of the content itself", disk, 6, 0, 0, 0);
+        State.block("write of the content itself", disk, 6, 0, 0, 0);
         disk.write(0, 7, 70);
         Due.is("write of another's content", 1, disk.write(1, 6, 0));
-        block("write of another's content", disk, 6, 0, 0, 1);
-        block("write of another's content", disk, 7, 70, 70, NOTHING);
+        State.block("write of another's content", disk, 6, 0, 0, 1);
+        State.block("write of another's content", disk, 7, 70, 70, NOTHING);
         Due.is("sync of a write that changed nothing", 1, disk.sync(1));
     }
 
@@ -179,7 +161,7 @@ public final class PromisesTest {
         for (int block = 0; block < 16; block++) {
             Due.is("safe(" + block + ") of sixteen", -block, disk.safe(block));
         }
-        counts("write of node 1 over one of sixteen", disk, 0, 1, 0);
+        State.counts("write of node 1 over one of sixteen", disk, 0, 1, 0);
     }
 
     private static void promise4SwapExchanges() {
@@ -189,14 +171,14 @@ public final class PromisesTest {
         disk.sync(0);
         disk.write(0, 3, 1);
         Due.is("swap(0, 0, 15)", 3, disk.swap(0, 0, 15));
-        block("swap", disk, 0, 6, 5, 0);
-        block("swap", disk, 15, 5, 6, 0);
+        State.block("swap", disk, 0, 6, 5, 0);
+        State.block("swap", disk, 15, 5, 6, 0);
         Due.is("swap back", 3, disk.swap(0, 15, 0));
-        block("swap back", disk, 0, 5, 5, 0);
-        block("swap back", disk, 15, 6, 6, 0);
+        State.block("swap back", disk, 0, 5, 5, 0);
+        State.block("swap back", disk, 15, 6, 6, 0);
         Due.is("swap of equal contents", 2, disk.swap(1, 8, 9));
-        block("swap of equal contents", disk, 8, 0, 0, 1);
-        block("swap of equal contents", disk, 9, 0, 0, 1);
+        State.block("swap of equal contents", disk, 8, 0, 0, 1);
+        State.block("swap of equal contents", disk, 9, 0, 0, 1);
     }
 
     private static void promise4SwapSettlesBothOwners() {
@@ -207,18 +189,18 @@ public final class PromisesTest {
         disk.write(1, 4, 14);
         disk.write(2, 5, 15);
         Due.is("swap(2, 1, 3)", 3, disk.swap(2, 1, 3));
-        block("swap of two others' blocks", disk, 1, 13, 11, 2);
-        block("swap of two others' blocks", disk, 2, 12, 12, NOTHING);
-        block("swap of two others' blocks", disk, 3, 11, 13, 2);
-        block("swap of two others' blocks", disk, 4, 14, 14, NOTHING);
-        block("swap of two others' blocks", disk, 5, 15, 0, 2);
-        counts("swap of two others' blocks", disk, 0, 0, 3);
+        State.block("swap of two others' blocks", disk, 1, 13, 11, 2);
+        State.block("swap of two others' blocks", disk, 2, 12, 12, NOTHING);
+        State.block("swap of two others' blocks", disk, 3, 11, 13, 2);
+        State.block("swap of two others' blocks", disk, 4, 14, 14, NOTHING);
+        State.block("swap of two others' blocks", disk, 5, 15, 0, 2);
+        State.counts("swap of two others' blocks", disk, 0, 0, 3);
         Due.is("swap of an own and a free block", 4, disk.swap(2, 5, 6));
-        block("swap of an own and a free block", disk, 5, 0, 0, 2);
-        block("swap of an own and a free block", disk, 6, 15, 0, 2);
+        State.block("swap of an own and a free block", disk, 5, 0, 0, 2);
+        State.block("swap of an own and a free block", disk, 6, 15, 0, 2);
         Due.is("crash after the swaps", 4, disk.crash(2));
-        block("crash after the swaps", disk, 1, 11, 11, NOTHING);
-        block("crash after the swaps", disk, 3, 13, 13, NOTHING);
+        State.block("crash after the swaps", disk, 1, 11, 11, NOTHING);
+        State.block("crash after the swaps", disk, 3, 13, 13, NOTHING);
     }
 
     private static void promise4SwapOfOneBlock() {
@@ -226,8 +208,8 @@ public final class PromisesTest {
         disk.write(0, 7, 70);
         disk.write(0, 8, 80);
         Due.is("swap(1, 7, 7)", 1, disk.swap(1, 7, 7));
-        block("swap of a block with itself", disk, 7, 70, 70, 1);
-        block("swap of a block with itself", disk, 8, 80, 80, NOTHING);
+        State.block("swap of a block with itself", disk, 7, 70, 70, 1);
+        State.block("swap of a block with itself", disk, 8, 80, 80, NOTHING);
         Due.is("the same swap again", 1, disk.swap(1, 7, 7));
     }
 
@@ -236,8 +218,8 @@ public final class PromisesTest {
         disk.write(0, 1, -3);
         disk.write(1, 2, -1);
         Due.is("swap of contents -3 and -1", 2, disk.swap(2, 1, 2));
-        block("swap of contents -3 and -1", disk, 1, -1, -3, 2);
-        block("swap of contents -3 and -1", disk, 2, -3, -1, 2);
+        State.block("swap of contents -3 and -1", disk, 1, -1, -3, 2);
+        State.block("swap of contents -3 and -1", disk, 2, -3, -1, 2);
     }
 
     private static void promise5Sync() {
@@ -248,11 +230,11 @@ public final class PromisesTest {
         disk.write(0, 15, 3);
         disk.write(1, 7, 4);
         Due.is("sync(0)", 2, disk.sync(0));
-        block("sync", disk, 0, 1, 1, NOTHING);
-        block("sync", disk, 15, 3, 3, NOTHING);
-        block("sync", disk, 7, 4, 0, 1);
-        counts("sync", disk, 0, 1, 0);
-        nodes("sync", disk, true, true, true);
+        State.block("sync", disk, 0, 1, 1, NOTHING);
+        State.block("sync", disk, 15, 3, 3, NOTHING);
+        State.block("sync", disk, 7, 4, 0, 1);
+        State.counts("sync", disk, 0, 1, 0);
+        State.nodes("sync", disk, true, true, true);
         Due.is("sync once more", 0, disk.sync(0));
     }
 
@@ -262,14 +244,14 @@ public final class PromisesTest {
         disk.write(0, 15, 2);
         disk.write(1, 7, 4);
         Due.is("crash(0)", 2, disk.crash(0));
-        block("crash", disk, 0, 0, 0, NOTHING);
-        block("crash", disk, 15, 0, 0, NOTHING);
-        block("crash", disk, 7, 4, 0, 1);
-        counts("crash", disk, 0, 1, 0);
-        nodes("crash", disk, false, true, true);
+        State.block("crash", disk, 0, 0, 0, NOTHING);
+        State.block("crash", disk, 15, 0, 0, NOTHING);
+        State.block("crash", disk, 7, 4, 0, 1);
+        State.counts("crash", disk, 0, 1, 0);
+        State.nodes("crash", disk, false, true, true);
         Due.is("crash of a node that is down", -3, disk.crash(0));
         Due.is("crash of a node without writes", 0, disk.crash(2));
-        nodes("two crashes", disk, false, true, false);
+        State.nodes("two crashes", disk, false, true, false);
         Due.is("read of an undone block", 0, disk.read(1, 0));
     }
 
@@ -279,9 +261,9 @@ public final class PromisesTest {
         disk.sync(0);
         disk.write(0, 3, 2);
         disk.write(0, 3, 3);
-        block("two writes after a sync", disk, 3, 3, 1, 0);
+        State.block("two writes after a sync", disk, 3, 3, 1, 0);
         Due.is("crash after them", 1, disk.crash(0));
-        block("crash after them", disk, 3, 1, 1, NOTHING);
+        State.block("crash after them", disk, 3, 1, 1, NOTHING);
     }
 
     private static void promise7CrashInSyncLate() {
@@ -290,14 +272,14 @@ public final class PromisesTest {
         disk.write(1, 15, 2);
         disk.write(2, 7, 4);
         Due.is("crashInSync(1, true)", 2, disk.crashInSync(1, true));
-        block("late crash", disk, 0, 1, 1, NOTHING);
-        block("late crash", disk, 15, 2, 2, NOTHING);
-        block("late crash", disk, 7, 4, 0, 2);
-        counts("late crash", disk, 0, 0, 1);
-        nodes("late crash", disk, true, false, true);
+        State.block("late crash", disk, 0, 1, 1, NOTHING);
+        State.block("late crash", disk, 15, 2, 2, NOTHING);
+        State.block("late crash", disk, 7, 4, 0, 2);
+        State.counts("late crash", disk, 0, 0, 1);
+        State.nodes("late crash", disk, true, false, true);
         Due.is("late crash of a node that is down", -3, disk.crashInSync(1, true));
         Due.is("late crash without writes", 0, disk.crashInSync(0, true));
-        nodes("late crash without writes", disk, false, false, true);
+        State.nodes("late crash without writes", disk, false, false, true);
     }
 
     private static void promise7CrashInSyncEarly() {
@@ -308,11 +290,11 @@ public final class PromisesTest {
         disk.write(1, 15, 2);
         disk.write(2, 7, 4);
         Due.is("crashInSync(1, false)", 2, disk.crashInSync(1, false));
-        block("early crash", disk, 0, 1, 1, NOTHING);
-        block("early crash", disk, 15, 0, 0, NOTHING);
-        block("early crash", disk, 7, 4, 0, 2);
-        counts("early crash", disk, 0, 0, 1);
-        nodes("early crash", disk, true, false, true);
+        State.block("early crash", disk, 0, 1, 1, NOTHING);
+        State.block("early crash", disk, 15, 0, 0, NOTHING);
+        State.block("early crash", disk, 7, 4, 0, 2);
+        State.counts("early crash", disk, 0, 0, 1);
+        State.nodes("early crash", disk, true, false, true);
         Due.is("early crash of a node that is down", -3, disk.crashInSync(1, false));
     }
 
@@ -325,11 +307,11 @@ public final class PromisesTest {
         disk.crash(0);
         disk.crash(2);
         Due.is("restart(2)", 1, disk.restart(2));
-        nodes("restart(2)", disk, false, true, true);
+        State.nodes("restart(2)", disk, false, true, true);
         Due.is("restart(2) again", 0, disk.restart(2));
         Due.is("restart(0)", 1, disk.restart(0));
-        nodes("restart(0)", disk, true, true, true);
-        block("restart(0)", disk, 1, 0, 0, NOTHING);
+        State.nodes("restart(0)", disk, true, true, true);
+        State.block("restart(0)", disk, 1, 0, 0, NOTHING);
         Due.is("write after a restart", 1, disk.write(0, 1, 6));
         Due.is("sync after a restart", 1, disk.sync(0));
         Due.is("crash after a restart", 0, disk.crash(0));
@@ -347,13 +329,13 @@ public final class PromisesTest {
         disk.write(2, 8, 7);
         disk.crash(2);
         Due.is("powerCut() with a node down", 3, disk.powerCut());
-        block("power cut", disk, 0, 1, 1, NOTHING);
-        block("power cut", disk, 1, 2, 2, NOTHING);
-        block("power cut", disk, 2, 3, 3, NOTHING);
-        block("power cut", disk, 8, 0, 0, NOTHING);
-        block("power cut", disk, 15, 0, 0, NOTHING);
-        counts("power cut", disk, 0, 0, 0);
-        nodes("power cut", disk, true, true, true);
+        State.block("power cut", disk, 0, 1, 1, NOTHING);
+        State.block("power cut", disk, 1, 2, 2, NOTHING);
+        State.block("power cut", disk, 2, 3, 3, NOTHING);
+        State.block("power cut", disk, 8, 0, 0, NOTHING);
+        State.block("power cut", disk, 15, 0, 0, NOTHING);
+        State.counts("power cut", disk, 0, 0, 0);
+        State.nodes("power cut", disk, true, true, true);
         disk.write(0, 3, 1);
         disk.write(1, 4, 1);
         disk.write(2, 5, 1);
@@ -362,7 +344,7 @@ public final class PromisesTest {
         disk.crashInSync(1, true);
         disk.crash(2);
         Due.is("powerCut() with all nodes down", 0, disk.powerCut());
-        nodes("power cut with all nodes down", disk, true, true, true);
+        State.nodes("power cut with all nodes down", disk, true, true, true);
     }
 
     private static void promises10To14LookingChangesNothing() {
@@ -374,10 +356,10 @@ public final class PromisesTest {
         disk.crash(2);
         String before = State.of(disk);
         Due.is("looking", before, State.of(disk));
-        block("looking", disk, 1, 12, 11, 0);
-        block("looking", disk, 2, 13, 0, 1);
-        counts("looking", disk, 1, 1, 0);
-        nodes("looking", disk, true, true, false);
+        State.block("looking", disk, 1, 12, 11, 0);
+        State.block("looking", disk, 2, 13, 0, 1);
+        State.counts("looking", disk, 1, 1, 0);
+        State.nodes("looking", disk, true, true, false);
         disk.write(0, 3, -4);
         Due.is("content that equals NOTHING", -4, disk.content(3));
         disk.sync(0);
